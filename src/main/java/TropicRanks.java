@@ -56,7 +56,7 @@ public final class TropicRanks {
         if (pad.longestRow != pad.shortestRow) {
             return BAD_VALUE;
         }
-        history.record(now);
+        history.remember(now);
         Grid grid = now.grids[array];
         pad.readInto(grid);
         pad.length = 0;
@@ -72,7 +72,7 @@ public final class TropicRanks {
         }
         Grid grid = now.grids[array];
         int previous = grid.at(row, column);
-        history.record(now);
+        history.remember(now);
         grid.assign(row, column, value);
         return previous;
     }
@@ -88,7 +88,7 @@ public final class TropicRanks {
         if (!grid.canAdd(isRow, number, by)) {
             return NOT_POSSIBLE;
         }
-        history.record(now);
+        history.remember(now);
         grid.add(isRow, number, by);
         return grid.greatest();
     }
@@ -100,7 +100,7 @@ public final class TropicRanks {
         if (number == other) {
             return BAD_VALUE;
         }
-        history.record(now);
+        history.remember(now);
         return now.grids[array].swapLines(isRow, number, other) ? 1 : 0;
     }
 
@@ -112,7 +112,7 @@ public final class TropicRanks {
         if (grid.lines(isRow) == 1) {
             return NOT_POSSIBLE;
         }
-        history.record(now);
+        history.remember(now);
         grid.removeLine(isRow, number);
         return grid.size();
     }
@@ -121,7 +121,7 @@ public final class TropicRanks {
         if (!isArray(array)) {
             return NO_SUCH;
         }
-        history.record(now);
+        history.remember(now);
         Grid grid = now.grids[array];
         turned.becomeTurned(grid);
         grid.become(turned);
@@ -144,7 +144,7 @@ public final class TropicRanks {
         if (spare.greatest() > MOST_VALUE) {
             return TOO_MANY;
         }
-        history.record(now);
+        history.remember(now);
         now.grids[to].become(spare);
         return spare.size();
     }
@@ -157,7 +157,7 @@ public final class TropicRanks {
         if (grid.rows != grid.columns) {
             return NOT_POSSIBLE;
         }
-        history.record(now);
+        history.remember(now);
         spare.become(grid);
         grid.shortenWays();
         return grid.unlikeIn(spare);
@@ -421,7 +421,7 @@ public final class TropicRanks {
         if (!saved[slot]) {
             return NOT_POSSIBLE;
         }
-        history.record(now);
+        history.remember(now);
         now.become(slots[slot]);
         return now.size();
     }
@@ -678,7 +678,7 @@ public final class TropicRanks {
             }
         }
 
-        private void record(State state) {
+        private void remember(State state) {
             states[next].become(state);
             next = (next + 1) % MOST_STATES;
             size = Math.min(size + 1, MOST_STATES);
