@@ -215,6 +215,8 @@ public final class PromisesTest {
         due("below 0", x.raise(0, false, 2, -2), NOT_POSSIBLE);
         dueArray(x, 0, "11,999,8;4,992,1");
         due("no change", x.count(2), 6);
+        due("only the first one below 0", with("0,5").raise(0, true, 0, -1), NOT_POSSIBLE);
+        due("only the last one above 999", with("0;999").raise(0, false, 0, 1), NOT_POSSIBLE);
         TropicRanks y = new TropicRanks();
         due("by 999", y.raise(2, true, 0, 999), 999);
         due("by -999", y.raise(2, false, 0, -999), 0);
@@ -235,6 +237,12 @@ public final class PromisesTest {
         due("no column", x.exchange(0, false, 1, -1), NO_SUCH);
         due("the same", x.exchange(0, false, 1, 1), BAD_VALUE);
         due("no change", x.count(2), 4);
+        TropicRanks z = with("1,2,3,4;5,6,7,8", "1,2;3,4;5,6;5,7", "0,0,0,0;0,0,0,1");
+        due("long rows", z.exchange(0, true, 0, 1), 1);
+        dueArray(z, 0, "5,6,7,8;1,2,3,4");
+        due("long columns", z.exchange(1, false, 1, 0), 1);
+        dueArray(z, 1, "2,1;4,3;6,5;7,5");
+        due("unlike at the end alone", z.exchange(2, true, 1, 0), 1);
         TropicRanks y = with("1,2,3");
         due("one row", y.exchange(0, true, 0, 1), NO_SUCH);
         due("three columns", y.exchange(0, false, 0, 2), 1);
@@ -360,6 +368,9 @@ public final class PromisesTest {
         due("three", x.permanent(0, 7, 7, 2), 14);
         due("three rows, the last one too", x.permanent(0, 13, 7, 0), 3);
         due("all six ways", with("5,5,5;5,5,5;5,5,5").permanent(0, 7, 7, 1), 6);
+        due("the second way is the greatest", with("0,1;9,0").permanent(0, 3, 3, 2), 10);
+        due("the second way is the least", with("5,1;1,5").permanent(0, 3, 3, 0), 2);
+        due("the first way is the greatest", with("9,1;1,9").permanent(0, 3, 3, 2), 18);
         due("no array", x.permanent(3, 0, 0, 3), NO_SUCH);
         due("no rows", x.permanent(0, 0, 0, 0), BAD_VALUE);
         due("no columns", x.permanent(0, 1, 0, 0), BAD_VALUE);
@@ -443,6 +454,7 @@ public final class PromisesTest {
         due("greatest", y.byCovers(0, 2), 12);
         due("sets", y.byCovers(1, 1), 2);
         due("greatest", y.byCovers(1, 2), 1);
+        due("sets of six places", with("0,1,0;1,0,0").byCovers(0, 1), 32);
         due("one row", y.byCovers(2, 0), 1);
         due("one row", y.byCovers(2, 1), 16);
     }
@@ -475,6 +487,8 @@ public final class PromisesTest {
         due("of two", x.cone(2, 0, 6, 0), 1);
         due("of one", x.cone(2, 0, 2, 1), 2);
         due("of the other", x.cone(2, 0, 4, 0), 1);
+        due("of the first", x.cone(1, 1, 1, 0), 1);
+        due("of the first, but not everywhere", x.cone(2, 1, 1, 1), 1);
         due("no array", x.cone(3, 0, -1, 2), NO_SUCH);
         due("no column", x.cone(0, 2, -1, 2), NO_SUCH);
         due("no column", x.cone(0, -1, 0, 0), NO_SUCH);
@@ -529,6 +543,8 @@ public final class PromisesTest {
         due("least", x.arrayOf(0, 3), 3);
         due("unlike", x.arrayOf(0, 4), 4);
         due("unlike", x.arrayOf(1, 4), 1);
+        due("least at place 1", with("7,3").arrayOf(0, 3), 3);
+        due("greatest at place 1", with("3,7").arrayOf(0, 2), 7);
         due("no array", x.arrayOf(3, 5), NO_SUCH);
         due("no array", x.arrayOf(-1, 0), NO_SUCH);
         due("what", x.arrayOf(0, 5), BAD_VALUE);
@@ -550,6 +566,7 @@ public final class PromisesTest {
         TropicRanks y = with("5,1;3,2", "0", "9,4,9;4,9,9;9,9,4");
         due("the shorter one", y.ring(0, 1), 2);
         due("the shorter one", y.ring(0, 2), 1);
+        due("the shorter one, found first", with("2,1;3,9").ring(0, 2), 1);
         due("a single one", y.ring(1, 0), 1);
         due("a single one", y.ring(1, 2), 1);
         due("a later one", y.ring(2, 1), 4);
