@@ -1035,7 +1035,10 @@ public final class TropicRanks {
             return greatest;
         }
 
-        /** The rows of a column that are not the least; no f(k) + entry is below the column's, so one that meets it is. */
+        /**
+         * The rows in which a column is not the least of all f(k) + entry. None of these is below
+         * the column's own entry, so that it is the least just if one of them is the same.
+         */
         private static int missedRows(Grid grid, int column, int others) {
             int missed = (1 << grid.rows) - 1;
             for (int k = 0; k < grid.columns; k++) {

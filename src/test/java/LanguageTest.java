@@ -33,12 +33,13 @@ public final class LanguageTest {
             "System.arraycopy");
     private static int wrong = 0;
 
-    public static void main(String[] args) throws IOException {
+    public static void main(String[] args) throws IOException, ReflectiveOperationException {
         face();
         namesOfPrivateMethods();
         source();
         callsMakeNothing();
         objectsAreSmall();
+        noCallThrows();
         System.out.println(wrong == 0 ? "the rules are kept" : wrong + " rules are not kept");
         if (wrong != 0) {
             System.exit(1);
@@ -144,6 +145,37 @@ public final class LanguageTest {
         }
         long bytes = (made() - before) / all.length;
         due("an object is small, but has " + bytes + " bytes", bytes < 10_000);
+    }
+
+    /** Each call with all mixes of arguments from a list with edges; an exception ends the test. */
+    private static void noCallThrows() throws ReflectiveOperationException {
+        int[] values = {Integer.MIN_VALUE, -1, 0, 1, 2, 3, 4, 7, 4096, Integer.MAX_VALUE};
+        long[] texts = {Long.MIN_VALUE, -1, 0, 0x2C, 0x31, 0x32, 0x3B, 0x313B31, 0x312C31, Long.MAX_VALUE};
+        TropicRanks x = new TropicRanks();
+        for (Method method : TropicRanks.class.getMethods()) {
+            if (method.getDeclaringClass() != TropicRanks.class) {
+                continue;
+            }
+            Class<?>[] types = method.getParameterTypes();
+            int mixes = (int) Math.pow(values.length, types.length);
+            for (int mix = 0; mix < mixes; mix++) {
+                Object[] arguments = new Object[types.length];
+                int rest = mix;
+                for (int i = 0; i < types.length; i++) {
+                    int pick = rest % values.length;
+                    rest /= values.length;
+                    if (types[i] == boolean.class) {
+                        arguments[i] = pick % 2 == 0;
+                    } else if (types[i] == long.class) {
+                        arguments[i] = texts[pick];
+                    } else {
+                        arguments[i] = values[pick];
+                    }
+                }
+                int answer = (Integer) method.invoke(x, arguments);
+                due(method + " answers " + answer, answer >= TropicRanks.NONE);
+            }
+        }
     }
 
     private static void callAll(TropicRanks x) {
