@@ -1,17 +1,5 @@
 /** For each promise of the document: what it asks, its edges, and its errors in their order. */
-public final class PromisesTest {
-    private static final int NO_SUCH = -1;
-    private static final int BAD_VALUE = -2;
-    private static final int BAD_TEXT = -3;
-    private static final int TOO_MANY = -4;
-    private static final int NOT_POSSIBLE = -5;
-    private static final int NONE = -6;
-    private static final int LOWEST = Integer.MIN_VALUE;
-    private static final int HIGHEST = Integer.MAX_VALUE;
-
-    private static int wrong = 0;
-    private static int asked = 0;
-
+public final class PromisesTest extends Sheet {
     public static void main(String[] args) {
         constants();
         promise1New();
@@ -45,56 +33,7 @@ public final class PromisesTest {
         promise27Undo();
         promise28Save();
         promise29Restore();
-        System.out.println(asked + " answers looked at, " + wrong + " not as due");
-        if (wrong != 0) {
-            System.exit(1);
-        }
-    }
-
-    private static void due(String call, long got, long want) {
-        asked++;
-        if (got != want) {
-            wrong++;
-            System.out.println(call + " answered " + got + ", due is " + want);
-        }
-    }
-
-    private static long packed(String characters) {
-        long packed = 0;
-        for (char character : characters.toCharArray()) {
-            packed = packed << 8 | character;
-        }
-        return packed;
-    }
-
-    private static void write(TropicRanks x, String text) {
-        for (int from = 0; from < text.length(); from += 8) {
-            String some = text.substring(from, Math.min(from + 8, text.length()));
-            due("put " + some, x.put(packed(some)), x.count(1));
-        }
-    }
-
-    private static TropicRanks with(String... texts) {
-        TropicRanks x = new TropicRanks();
-        for (int array = 0; array < texts.length; array++) {
-            write(x, texts[array]);
-            due("load " + texts[array], x.load(array), texts[array].split("[,;]").length);
-        }
-        return x;
-    }
-
-    /** All of an array, its form too. */
-    private static void dueArray(TropicRanks x, int array, String text) {
-        String[] rows = text.split(";");
-        due("rows of " + text, x.arrayOf(array, 0), rows.length);
-        due("columns of " + text, x.arrayOf(array, 1), rows[0].split(",").length);
-        for (int row = 0; row < rows.length; row++) {
-            String[] entries = rows[row].split(",");
-            for (int column = 0; column < entries.length; column++) {
-                due("entry " + row + ", " + column + " of " + text, x.entry(array, row, column),
-                        Integer.parseInt(entries[column]));
-            }
-        }
+        end();
     }
 
     private static void constants() {
