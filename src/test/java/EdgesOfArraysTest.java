@@ -217,6 +217,15 @@ public final class EdgesOfArraysTest extends Sheet {
         arrayHas("5,5,9,5;5,1,5,5;5,5,5,5", 3, 1);
         arrayHas("6", 2, 6);
         arrayHas("6", 3, 6);
+        for (int place = 0; place < 12; place++) {
+            StringBuilder text = new StringBuilder("5,5,5,5;5,5,5,5;5,5,5,5");
+            text.setCharAt(2 * place, '9');
+            arrayHas(text.toString(), 2, 9);
+            arrayHas(text.toString(), 3, 5);
+            text.setCharAt(2 * place, '1');
+            arrayHas(text.toString(), 2, 5);
+            arrayHas(text.toString(), 3, 1);
+        }
     }
 
     @Sentence("2 its greatest entry, 3 its least one: what was dropped does not count")

@@ -140,6 +140,34 @@ public final class EdgesOfHistoryTest extends Sheet {
         for (Call error : errors) {
             stays(Sheet::busy, error.name, error::on, error.on(busy()));
             due(error.name + " fails", error.on(busy()) < 0 ? 1 : 0, 1);
+            stays(EdgesOfHistoryTest::busyWithSixStates, error.name, error::on, error.on(busy()));
+        }
+    }
+
+    /** A busy object that changed twice more, so that its history is full. */
+    private static TropicRanks busyWithSixStates() {
+        TropicRanks x = busy();
+        x.turn(0);
+        x.turn(0);
+        due("changes", x.count(2), 6);
+        return x;
+    }
+
+    @Sentence("when one more is recorded, the oldest one is dropped: by each method that is a change")
+    static void undoOfEachMethodAfterSixStates() {
+        for (Call change : changesOfEachMethod()) {
+            TropicRanks x = busyWithSixStates();
+            due(change.name + " succeeds", change.on(x) >= 0 ? 1 : 0, 1);
+            due("changes after " + change.name, x.count(2), 6);
+            due("undo of " + change.name, x.undo(), 5);
+            dueArrays(x, BUSY);
+            for (int left = 4; left >= 0; left--) {
+                due("undo after " + change.name, x.undo(), left);
+            }
+            // That of the new object is the one that was dropped.
+            dueArrays(x, "1,2;3,4", "0", "0");
+            due("no more after " + change.name, x.undo(), NOT_POSSIBLE);
+            dueArrays(x, "1,2;3,4", "0", "0");
         }
     }
 

@@ -1,3 +1,6 @@
+import java.util.ArrayList;
+import java.util.List;
+
 /**
  * The edges of the promises 11 to 18, 20, 22 and 23: permanent, byParts, canTouch, byCovers,
  * cover, cone, factor, byCone, ring, ifSet, bestZero. None of these changes anything.
@@ -15,6 +18,63 @@ public final class EdgesOfRanksTest extends Sheet {
 
     public static void main(String[] args) throws IllegalAccessException {
         runSentences(EdgesOfRanksTest.class);
+    }
+
+    // ---- all of them
+
+    /** A call on an array, which answers just from what the array is. */
+    private interface Asking {
+        int of(TropicRanks x, int array);
+    }
+
+    private static List<Asking> askings() {
+        List<Asking> all = new ArrayList<>();
+        for (int number = 0; number < 4; number++) {
+            int what = number;
+            all.add((x, array) -> x.byParts(array, what));
+            all.add((x, array) -> x.byCovers(array, what));
+            all.add((x, array) -> x.byCone(array, true, what));
+            all.add((x, array) -> x.byCone(array, false, what));
+            all.add((x, array) -> x.ring(array, what));
+            all.add((x, array) -> x.permanent(array, 3, 3, what));
+            all.add((x, array) -> x.permanent(array, 7, 7, what));
+            all.add((x, array) -> x.ifSet(array, 0, 1, 3, what));
+            all.add((x, array) -> x.factor(array, 0, what));
+            all.add((x, array) -> x.cone(array, 1, 1 + 4 * what, 1));
+        }
+        for (int number = 0; number < 12; number++) {
+            int place = number;
+            all.add((x, array) -> x.cover(array, place));
+            all.add((x, array) -> x.canTouch(array, 3 << place));
+        }
+        all.add((x, array) -> x.bestZero(array));
+        return all;
+    }
+
+    @Sentence("nothing changes: what was asked for before, also of another array, does not matter")
+    static void askedBefore() {
+        String[] texts = {SQUARES, "7,1;2,7", "4,9,9;9,5,9;9,9,6"};
+        int[][] wants = new int[texts.length][askings().size()];
+        for (int array = 0; array < texts.length; array++) {
+            for (int asking = 0; asking < askings().size(); asking++) {
+                wants[array][asking] = askings().get(asking).of(with(texts), array);
+            }
+        }
+        // Not more than 512 calls on one object.
+        TropicRanks of = with(texts);
+        for (int asking = 0; asking < askings().size(); asking++) {
+            for (int array : new int[] {0, 1, 2, 0}) {
+                due("asking " + asking + " of " + texts[array], askings().get(asking).of(of, array), wants[array][asking]);
+            }
+        }
+        TropicRanks backwards = with(texts);
+        for (int array : new int[] {1, 0, 2, 1}) {
+            for (int asking = askings().size() - 1; asking >= 0; asking--) {
+                due("asking " + asking + " of " + texts[array], askings().get(asking).of(backwards, array),
+                        wants[array][asking]);
+            }
+        }
+        dueAlikeArrays("after all", of, with(texts));
     }
 
     // ---- promise 11: permanent
