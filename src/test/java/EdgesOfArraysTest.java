@@ -1,3 +1,7 @@
+import java.lang.reflect.Method;
+import java.util.List;
+import java.util.Set;
+import java.util.TreeSet;
 import java.util.function.Supplier;
 
 /**
@@ -19,6 +23,73 @@ public final class EdgesOfArraysTest extends Sheet {
         due("TOO_MANY", TropicRanks.TOO_MANY, -4);
         due("NOT_POSSIBLE", TropicRanks.NOT_POSSIBLE, -5);
         due("NONE", TropicRanks.NONE, -6);
+    }
+
+    /** For each method the errors that its promise names. */
+    private static final String[] ERRORS = {
+        "load -1 -2 -3 -4", "set -1 -2", "raise -1 -2 -5", "exchange -1 -2", "drop -1 -5", "turn -1",
+        "product -1 -4 -5", "close -1 -5", "entry -1", "permanent -1 -2", "byParts -1 -2", "canTouch -1 -2",
+        "byCovers -1 -2", "cover -1", "cone -1 -2", "factor -1 -2", "byCone -1 -2", "arrayOf -1 -2", "ring -1 -2 -5",
+        "count -2", "ifSet -1 -2", "bestZero -1", "put -2 -4", "wipe", "fault", "undo -5", "save -2", "restore -2 -5"
+    };
+
+    @Sentence("A method that fails returns one of the error codes; it names its errors: it returns these, and no others")
+    static void conventionsErrorsOfEachMethod() throws ReflectiveOperationException {
+        for (String errors : ERRORS) {
+            String[] parts = errors.split(" ");
+            Set<Integer> named = new TreeSet<>();
+            for (int part = 1; part < parts.length; part++) {
+                named.add(Integer.parseInt(parts[part]));
+            }
+            Set<Integer> seen = answersBelowNothing(methodOf(parts[0]));
+            // NONE is no error, and fault alone returns it.
+            due(parts[0] + " returns NONE", seen.remove(NONE) ? 1 : 0, parts[0].equals("fault") ? 1 : 0);
+            due(errors + ", but it returned " + seen, seen.equals(named) ? 1 : 0, 1);
+        }
+        due("methods", ERRORS.length, publicMethods().size());
+    }
+
+    private static List<Method> publicMethods() {
+        return List.of(TropicRanks.class.getMethods()).stream()
+                .filter(method -> method.getDeclaringClass() == TropicRanks.class).toList();
+    }
+
+    private static Method methodOf(String name) {
+        return publicMethods().stream().filter(method -> method.getName().equals(name)).findFirst().orElseThrow();
+    }
+
+    /** What a method answers below 0, with all mixes of some arguments, asked of several objects. */
+    private static Set<Integer> answersBelowNothing(Method method) throws ReflectiveOperationException {
+        int[] numbers = {-1, 0, 1, 3, 1000, LOWEST};
+        long[] characters = {-1, 0, '1', '2', 0x3131, ' '};
+        List<Supplier<TropicRanks>> made = List.of(TropicRanks::new, Sheet::busy, Sheet::full, having("999"),
+                () -> writing("1;1,2"), () -> writing("1;2;3;4;5"), () -> writing("0,1;1,0"));
+        Class<?>[] types = method.getParameterTypes();
+        Set<Integer> below = new TreeSet<>();
+        int mixes = (int) Math.pow(numbers.length, types.length);
+        for (Supplier<TropicRanks> one : made) {
+            for (int mix = 0; mix < mixes; mix++) {
+                Object[] arguments = new Object[types.length];
+                int rest = mix;
+                for (int argument = 0; argument < types.length; argument++) {
+                    int pick = rest % numbers.length;
+                    rest /= numbers.length;
+                    arguments[argument] = types[argument] == boolean.class ? (Object) (pick % 2 == 0)
+                            : types[argument] == long.class ? (Object) characters[pick] : (Object) numbers[pick];
+                }
+                int answer = (Integer) method.invoke(one.get(), arguments);
+                if (answer < 0) {
+                    below.add(answer);
+                }
+            }
+        }
+        return below;
+    }
+
+    private static TropicRanks writing(String text) {
+        TropicRanks x = new TropicRanks();
+        write(x, text);
+        return x;
     }
 
     @Sentence("Everything is numbered from 0")
@@ -109,6 +180,57 @@ public final class EdgesOfArraysTest extends Sheet {
             new Asking("ifSet", 1, (x, a) -> x.ifSet(a, 0, 0, 5, 0)),
             new Asking("bestZero", 0, (x, a) -> x.bestZero(a)),
         };
+    }
+
+    @Sentence("each with 1 to 4 rows and 1 to 4 columns, but at most 12 entries; an entry is 0 to 999: after each change")
+    static void arraysAfterEachChange() {
+        for (int run = 0; run < 200; run++) {
+            TropicRanks x = run % 2 == 0 ? busy() : full();
+            // Always the same steps, but unlike ones for each run.
+            int state = 7919 * run + 1;
+            for (int change = 0; change < 12; change++) {
+                state = state * 1103515245 + 12345;
+                changeSomehow(x, state >>> 8 & 0xFFFF);
+                dueSomeArrays(x, "run " + run + ", change " + change);
+            }
+        }
+    }
+
+    private static void changeSomehow(TropicRanks x, int mix) {
+        int array = mix % 3;
+        int other = mix / 3 % 3;
+        int number = mix / 9 % 4;
+        boolean isRow = mix / 36 % 2 == 0;
+        int value = mix / 72 % 1000;
+        switch (mix / 5 % 10) {
+            case 0 -> x.set(array, number, other, value == 0 ? 999 : value);
+            case 1 -> x.raise(array, isRow, number, value);
+            case 2 -> x.raise(array, isRow, number, -value / 100);
+            case 3 -> x.exchange(array, isRow, number, other);
+            case 4 -> x.drop(array, isRow, number);
+            case 5 -> x.turn(array);
+            case 6 -> x.product(array, other, number);
+            case 7 -> x.close(array);
+            case 8 -> x.restore(number % 2);
+            default -> x.undo();
+        }
+    }
+
+    private static void dueSomeArrays(TropicRanks x, String when) {
+        int all = 0;
+        for (int array = 0; array < 3; array++) {
+            int rows = x.arrayOf(array, 0);
+            int columns = x.arrayOf(array, 1);
+            all += rows * columns;
+            boolean isForm = rows >= 1 && rows <= 4 && columns >= 1 && columns <= 4 && rows * columns <= 12;
+            due(when + ", " + rows + " rows and " + columns + " columns are few enough", isForm ? 1 : 0, 1);
+            due(when + ", the least entry is 0 or above", Math.min(x.arrayOf(array, 3), 0), 0);
+            due(when + ", the greatest entry is 999 or below", Math.max(x.arrayOf(array, 2), 999), 999);
+            due(when + ", the last entry is there", x.entry(array, rows - 1, columns - 1) >= 0 ? 1 : 0, 1);
+            due(when + ", no row more", x.entry(array, rows, 0), NO_SUCH);
+            due(when + ", no column more", x.entry(array, 0, columns), NO_SUCH);
+        }
+        due(when + ", entries of all arrays", x.count(0), all);
     }
 
     // ---- promise 1: a new object

@@ -288,6 +288,60 @@ public final class EdgesOfRanksTest extends Sheet {
         }
     }
 
+    @Sentence("A cover is a number u(i) for each row, and v(j) for each column; it touches the entry where it is the same")
+    static void canTouchWhatCoversTouch() {
+        for (int mix = 0; mix < 81; mix++) {
+            String text = mix % 3 + "," + mix / 3 % 3 + ";" + mix / 9 % 3 + "," + mix / 27;
+            touchesAsCoversDo(text, 2, 2, 5);
+        }
+        touchesAsCoversDo("2,0,1", 1, 3, 5);
+        touchesAsCoversDo("2;0;1", 3, 1, 5);
+        touchesAsCoversDo("2,0,1;1,2,0", 2, 3, 5);
+        touchesAsCoversDo("2,0,2;0,0,1", 2, 3, 5);
+        touchesAsCoversDo("2,0;1,2;0,1", 3, 2, 5);
+        touchesAsCoversDo("0,1,1;1,0,1;1,1,0", 3, 3, 3);
+        touchesAsCoversDo("1,0,2;2,1,0;0,2,1", 3, 3, 4);
+        touchesAsCoversDo("0,0,1;0,1,0;1,0,0", 3, 3, 3);
+    }
+
+    /**
+     * Goes through all covers whose numbers are not further than so much from 0, and asks for each
+     * set of places. The first row has 0, as a cover stays one if all rows give something to the columns.
+     */
+    private static void touchesAsCoversDo(String text, int rows, int columns, int far) {
+        TropicRanks x = with(text);
+        boolean[] canBe = new boolean[1 << rows * columns];
+        int[] numbers = new int[rows + columns];
+        int steps = 2 * far + 1;
+        int mixes = (int) Math.pow(steps, rows + columns - 1);
+        String[] entries = text.split("[,;]");
+        for (int mix = 0; mix < mixes; mix++) {
+            int rest = mix;
+            for (int line = 1; line < numbers.length; line++) {
+                numbers[line] = rest % steps - far;
+                rest /= steps;
+            }
+            int touched = 0;
+            boolean isCover = true;
+            for (int place = 0; place < entries.length && isCover; place++) {
+                int sum = numbers[place / columns] + numbers[rows + place % columns];
+                int entry = Integer.parseInt(entries[place]);
+                isCover = sum >= entry;
+                touched |= sum == entry ? 1 << place : 0;
+            }
+            if (isCover) {
+                canBe[touched] = true;
+            }
+        }
+        for (int places = 0; places < canBe.length; places++) {
+            boolean isIn = false;
+            for (int touched = 0; touched < canBe.length && !isIn; touched++) {
+                isIn = canBe[touched] && (places & ~touched) == 0;
+            }
+            due("canTouch " + places + " of " + text, x.canTouch(0, places), isIn ? 1 : 0);
+        }
+    }
+
     @Sentence("whole numbers, also below 0: from the least to the greatest entry")
     static void canTouchWithGreatEntries() {
         touches("0,999;0,0", 14, 1);
@@ -457,6 +511,29 @@ public final class EdgesOfRanksTest extends Sheet {
         firstRowOf("1,2;3,4", 0, 0, 0, 0);
         firstRowOf("3,1,4,1", 0, 0, 0, 0);
         firstRowOf(TWELVE_ZEROS, 0, 0, 0, 0, 0, 0, 0, 0, 0, 0, 0, 0);
+    }
+
+    @Sentence("so that the places with the same number can be touched: of numbers from 0 to the rank less 1")
+    static void coverOfPlacesThatCanBeTouched() {
+        for (String text : new String[] {"0", "0,1;1,0", "2,0,3;3,2,0", "5,0;9,0;0,0", "2,0,3;3,2,0;0,3,2", DIAGONAL,
+                "0,0,1;0,1,0;1,0,0", "7,1,8,2;8,1,8,2;8,4,5,9", SQUARES, SQUARES_TURNED, TWELVE_ZEROS}) {
+            TropicRanks x = with(text);
+            int rank = x.byCovers(0, 0);
+            int[] placesOf = new int[rank];
+            for (int place = 0; place < entriesIn(text); place++) {
+                int number = x.cover(0, place);
+                boolean isNumber = number >= 0 && number < rank;
+                due("cover " + place + " of " + text + ", " + number + " is below " + rank, isNumber ? 1 : 0, 1);
+                if (isNumber) {
+                    placesOf[number] |= 1 << place;
+                }
+            }
+            for (int number = 0; number < rank; number++) {
+                due("places of " + text + " with " + number, x.canTouch(0, placesOf[number]), 1);
+                // With less numbers it would be a lesser rank.
+                due("places of " + text + " with " + number + ", some", placesOf[number] == 0 ? 0 : 1, 1);
+            }
+        }
     }
 
     @Sentence("the first cover row is the one in which the place 0 has the least number, of these the place 1, and so on")

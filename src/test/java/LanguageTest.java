@@ -79,6 +79,8 @@ public final class LanguageTest {
                     || Modifier.isFinal(field.getModifiers()));
             if (!Modifier.isPrivate(field.getModifiers()) && !field.isSynthetic()) {
                 constants.add(field.getName());
+                due(field + " is a public constant, an int", Modifier.isPublic(field.getModifiers())
+                        && Modifier.isStatic(field.getModifiers()) && field.getType() == int.class);
             }
         }
         due("the constants are " + constants, constants.equals(new TreeSet<>(CONSTANTS)));
