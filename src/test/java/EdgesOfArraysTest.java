@@ -64,20 +64,11 @@ public final class EdgesOfArraysTest extends Sheet {
         long[] characters = {-1, 0, '1', '2', 0x3131, ' '};
         List<Supplier<TropicRanks>> made = List.of(TropicRanks::new, Sheet::busy, Sheet::full, having("999"),
                 () -> writing("1;1,2"), () -> writing("1;2;3;4;5"), () -> writing("0,1;1,0"));
-        Class<?>[] types = method.getParameterTypes();
         Set<Integer> below = new TreeSet<>();
-        int mixes = (int) Math.pow(numbers.length, types.length);
+        int mixes = (int) Math.pow(numbers.length, method.getParameterCount());
         for (Supplier<TropicRanks> one : made) {
             for (int mix = 0; mix < mixes; mix++) {
-                Object[] arguments = new Object[types.length];
-                int rest = mix;
-                for (int argument = 0; argument < types.length; argument++) {
-                    int pick = rest % numbers.length;
-                    rest /= numbers.length;
-                    arguments[argument] = types[argument] == boolean.class ? (Object) (pick % 2 == 0)
-                            : types[argument] == long.class ? (Object) characters[pick] : (Object) numbers[pick];
-                }
-                int answer = (Integer) method.invoke(one.get(), arguments);
+                int answer = (Integer) method.invoke(one.get(), argumentsOf(method, mix, numbers, characters));
                 if (answer < 0) {
                     below.add(answer);
                 }

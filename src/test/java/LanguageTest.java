@@ -158,23 +158,9 @@ public final class LanguageTest {
             if (method.getDeclaringClass() != TropicRanks.class) {
                 continue;
             }
-            Class<?>[] types = method.getParameterTypes();
-            int mixes = (int) Math.pow(values.length, types.length);
+            int mixes = (int) Math.pow(values.length, method.getParameterCount());
             for (int mix = 0; mix < mixes; mix++) {
-                Object[] arguments = new Object[types.length];
-                int rest = mix;
-                for (int i = 0; i < types.length; i++) {
-                    int pick = rest % values.length;
-                    rest /= values.length;
-                    if (types[i] == boolean.class) {
-                        arguments[i] = pick % 2 == 0;
-                    } else if (types[i] == long.class) {
-                        arguments[i] = texts[pick];
-                    } else {
-                        arguments[i] = values[pick];
-                    }
-                }
-                int answer = (Integer) method.invoke(x, arguments);
+                int answer = (Integer) method.invoke(x, Sheet.argumentsOf(method, mix, values, texts));
                 due(method + " answers " + answer, answer >= TropicRanks.NONE);
             }
         }

@@ -12,8 +12,6 @@ import java.util.TreeSet;
 import java.util.regex.Matcher;
 import java.util.regex.Pattern;
 import java.util.stream.Stream;
-import javax.tools.JavaCompiler;
-import javax.tools.ToolProvider;
 
 /**
  * What README.md says: its calls are compiled and made, and have to answer as they do there;
@@ -103,7 +101,8 @@ public final class ReadmeTest extends Sheet {
 
     // ---- its calls
 
-    private static void callsAnswerAsTheyDoThere() throws IOException, ReflectiveOperationException {
+    private static void callsAnswerAsTheyDoThere()
+            throws IOException, InterruptedException, ReflectiveOperationException {
         StringBuilder members = new StringBuilder();
         StringBuilder body = new StringBuilder();
         Set<String> called = new TreeSet<>();
@@ -165,14 +164,15 @@ public final class ReadmeTest extends Sheet {
         return names;
     }
 
-    private static void makeCalls(String members, String body) throws IOException, ReflectiveOperationException {
+    private static void makeCalls(String members, String body)
+            throws IOException, InterruptedException, ReflectiveOperationException {
         Path source = room.resolve("ReadmeCalls.java");
         Files.writeString(source, "public final class ReadmeCalls {\n" + members
                 + "public static void make() {\n" + body + "}\n}\n");
-        JavaCompiler compiler = ToolProvider.getSystemJavaCompiler();
-        int error = compiler.run(null, null, null, "-d", room.toString(), "-cp",
-                System.getProperty("java.class.path"), source.toString());
-        due("the calls of README.md compile", error, 0);
+        List<String> printed = new ArrayList<>();
+        int error = run("javac -d '" + room + "' -cp '" + System.getProperty("java.class.path") + "' '" + source + "'",
+                printed);
+        due("the calls of README.md compile\n" + String.join("\n", printed) + "\n exit code", error, 0);
         if (error == 0) {
             try (URLClassLoader loader = new URLClassLoader(new URL[] {room.toUri().toURL()},
                     ReadmeTest.class.getClassLoader())) {

@@ -167,6 +167,27 @@ abstract class Sheet {
         return x;
     }
 
+    // ---- arguments
+
+    /** One mix, of as many as there are numbers to the power of the types, of arguments of a method. */
+    static Object[] argumentsOf(Method method, int mix, int[] numbers, long[] characters) {
+        Class<?>[] types = method.getParameterTypes();
+        Object[] arguments = new Object[types.length];
+        int rest = mix;
+        for (int argument = 0; argument < types.length; argument++) {
+            int pick = rest % numbers.length;
+            rest /= numbers.length;
+            if (types[argument] == boolean.class) {
+                arguments[argument] = pick % 2 == 0;
+            } else if (types[argument] == long.class) {
+                arguments[argument] = characters[pick];
+            } else {
+                arguments[argument] = numbers[pick];
+            }
+        }
+        return arguments;
+    }
+
     // ---- what a call changes
 
     /** A call answers so, and changes nothing: neither an array nor the pad, the history or a slot. */
